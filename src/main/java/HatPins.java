@@ -27,8 +27,8 @@ public final class HatPins {
     private static final int KINDS = 4;
     private static final int TO_COME = 0, ON = 1, OVER = 2, PINNED = 3;
 
-    /** Told in a text; no minute that a thing comes to be due in, 99 can be one. */
     private static final int ONLY_FOLLOWS = 99;
+    /** Not 99: what follows can come to be due in minute 99. */
     private static final int NOT_DUE = 1000000;
 
     private final Text text = new Text();

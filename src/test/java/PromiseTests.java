@@ -544,6 +544,7 @@ public final class PromiseTests {
         due("eight at most", x.count(10), 8);
         for (int n = 7; n >= 0; n--) {
             due("undone", x.undo(), n);
+            due("as it was ahead of so many", x.count(2), (n + 2) * (n + 3) / 2);
         }
         due("no more", x.undo(), NO);
         due("the oldest two stay", x.count(2), 3);
@@ -919,26 +920,33 @@ public final class PromiseTests {
         due("no act", x.count(10), 1);
         due("no lady", passed("g0,0,3,2,4;", 1).season(0, 60, 0), 10000);
         due("no pins", passed("g0,0,3,2,4;", 1).season(0, 60, 1), 0);
-        due("z of 9999", new HatPins().season(9999, 60, 0), seasonOfFirst(9999));
+        seasonIsAsPlayed("g0,0,9,1,20;g1,3,6,2,15;g2,9,2,1,12;g3,10,5,1,30;l2,0,1;l1,2,3;l3,0;", 9999);
         for (int z = 0; z < 10000; z += 37) {
-            due("z of " + z, new HatPins().season(z, 60, 0), seasonOfFirst(z));
+            seasonIsAsPlayed("g0,0,9,1,20;g1,3,6,2,15;g2,99,2,1,12;g3,10,5,1,30;f0,2,1;l2,0,1;l1,2,3;l3,0;", z);
+            // The first can lend to none of the others: they have 9.
+            seasonIsAsPlayed("g0,0,9,5,40;g0,0,9,4,40;g0,0,9,3,40;l1,0;l9,1;l9,1;", z);
+            seasonIsAsPlayed("g0,0,9,5,40;g0,0,9,4,40;l0,0;l8,1;", z);
         }
     }
 
-    /** The season played by the other calls of the class, on the evening that is laid at first. */
-    private static int seasonOfFirst(int z) {
-        HatPins x = new HatPins();
+    /** The season is that which is played by the other calls of the class. */
+    private static void seasonIsAsPlayed(String text, int z) {
+        HatPins x = laid(text);
+        int had = x.season(z, 60, 0);
+        int pins = x.season(z, 60, 1);
+        int ladies = x.count(1);
         for (int k = 0; k < 60; k++) {
             long seed = (7919L * z + 6151L * k + 1) % 65521;
             int draw = (int) (seed * seed % 65521);
             if (draw % 8 < 2) {
-                x.pin(draw / 8 % 3, draw / 64 % 5);
+                x.pin(draw / 8 % ladies, draw / 64 % x.count(0));
             } else if (draw % 8 == 2) {
-                x.lend(draw / 8 % 3, draw / 64 % 3);
+                x.lend(draw / 8 % ladies, draw / 64 % ladies);
             }
             x.pass(1);
         }
-        return x.count(7);
+        due("had in the season of " + z, had, x.count(7));
+        due("pins in the season of " + z, pins, x.count(8));
     }
 
     private static void keepAndBack() {
