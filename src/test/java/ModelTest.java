@@ -11,7 +11,8 @@ import java.util.regex.Pattern;
 /** Drawn runs of calls: the class against a second telling of the document, made another way. */
 public final class ModelTest {
     private static final int BAD = -1, NO = -2, FULL = -3, NONE = -4;
-    private static final int RUNS = 1500, CALLS = 300;
+    /** Behind so many calls a text of 200 letters can still be laid: 512 calls are promised. */
+    private static final int RUNS = 2000, CALLS = 300;
 
     /** One thing that goes on; when it began and ended, and how, is all that is held of it. */
     private static final class Thing implements Cloneable {
@@ -672,8 +673,10 @@ public final class ModelTest {
     }
 
     private static int wrong = 0;
+    private static int calls = 0;
 
     private static void both(StringBuilder run, HatPins x, Model m, String call, int[] v) {
+        calls++;
         int got = real(x, call, v[0], v[1], v[2], v[3]);
         int want = m.answer(call, v[0], v[1], v[2], v[3]);
         run.append(call).append(Arrays.toString(v)).append(' ').append(got).append('\n');
@@ -698,8 +701,9 @@ public final class ModelTest {
             StringBuilder run = new StringBuilder();
             int interest = drawn(21);
             int wane = drawn(6);
-            for (int i = 0; i < CALLS && wrong == 0; i++) {
-                if (i == 0 && r % 8 != 0 || drawn(200) == 0) {
+            calls = 0;
+            while (calls < CALLS && wrong == 0) {
+                if (calls == 0 && r % 8 != 0 || drawn(200) == 0) {
                     both(run, x, m, "wipe", new int[4]);
                     String text = drawnText();
                     for (int k = 0; k < text.length(); k++) {

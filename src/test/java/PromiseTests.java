@@ -1,44 +1,7 @@
 import java.util.Arrays;
 
 /** At least one test for each promise, 1 to 27, by answers worked out by hand. */
-public final class PromiseTests {
-    private static final int BAD = -1, NO = -2, FULL = -3, NONE = -4;
-    private static final int MIN = Integer.MIN_VALUE, MAX = Integer.MAX_VALUE;
-
-    private static int wrong = 0;
-    private static int promise = 0;
-
-    private static void due(String what, int got, int want) {
-        if (got != want) {
-            wrong++;
-            System.out.println("promise " + promise + ": " + what + " answered " + got + ", due is " + want);
-        }
-    }
-
-    private static void written(HatPins x, String text) {
-        for (int i = 0; i < text.length(); i++) {
-            x.write(text.charAt(i));
-        }
-    }
-
-    private static HatPins laid(String text) {
-        HatPins x = new HatPins();
-        written(x, text);
-        if (x.lay() < 1) {
-            wrong++;
-            System.out.println("promise " + promise + ": not laid: " + text);
-        }
-        return x;
-    }
-
-    private static HatPins passed(String text, int... minutes) {
-        HatPins x = laid(text);
-        for (int n : minutes) {
-            x.pass(n);
-        }
-        return x;
-    }
-
+public final class PromiseTests extends Checks {
     public static void main(String[] args) {
         newObject();
         write();
@@ -74,14 +37,11 @@ public final class PromiseTests {
         keepAndBack();
         count();
         errorsChangeNothing();
-        System.out.println(wrong == 0 ? "the promises are kept" : wrong + " answers are wrong");
-        if (wrong != 0) {
-            System.exit(1);
-        }
+        end("the promises are kept");
     }
 
     private static void newObject() {
-        promise = 1;
+        bind("promise 1");
         HatPins x = new HatPins();
         due("BAD", HatPins.BAD, BAD);
         due("NO", HatPins.NO, NO);
@@ -113,7 +73,7 @@ public final class PromiseTests {
     }
 
     private static void write() {
-        promise = 2;
+        bind("promise 2");
         HatPins x = new HatPins();
         for (int letter : new int[] {MIN, -1, 0, 10, 31, 127, 233, MAX}) {
             due("write " + letter, x.write(letter), BAD);
@@ -136,7 +96,7 @@ public final class PromiseTests {
     }
 
     private static void wipe() {
-        promise = 3;
+        bind("promise 3");
         HatPins x = new HatPins();
         due("nothing", x.wipe(), 0);
         written(x, "g0,0,9,1,20;");
@@ -161,7 +121,7 @@ public final class PromiseTests {
     }
 
     private static void fault() {
-        promise = 4;
+        bind("promise 4");
         faultIs("", NONE);
         faultIs("g0,0,0,0,1;", NONE);
         faultIs("g0,0,0,0,1", 0);
@@ -199,7 +159,7 @@ public final class PromiseTests {
     }
 
     private static void faultOfNumbers() {
-        promise = 4;
+        bind("promise 4");
         faultIs("g3,60,20,5,40;", NONE);
         faultIs("g4,60,20,5,40;", 0);
         faultIs("g3,61,20,5,40;", 0);
@@ -231,7 +191,7 @@ public final class PromiseTests {
     }
 
     private static void faultOfMany() {
-        promise = 4;
+        bind("promise 4");
         String seven = "";
         for (int i = 0; i < 7; i++) {
             seven += "g0,0,0,0,1;";
@@ -249,7 +209,7 @@ public final class PromiseTests {
     }
 
     private static void lay() {
-        promise = 5;
+        bind("promise 5");
         HatPins x = new HatPins();
         due("of nothing", x.lay(), NO);
         written(x, "l1,1;");
@@ -291,7 +251,7 @@ public final class PromiseTests {
     }
 
     private static void going() {
-        promise = 6;
+        bind("promise 6");
         HatPins x = laid("g0,2,9,3,4;g3,99,8,5,2;f0,1,20;");
         due("no such", x.going(2, 0), BAD);
         due("no such", x.going(-1, 0), BAD);
@@ -340,7 +300,7 @@ public final class PromiseTests {
     }
 
     private static void worths() {
-        promise = 6;
+        bind("promise 6");
         worthsAre("0,0,9,5", 24, 19, 14, 9, 4, 0, 0, 0);
         worthsAre("0,0,20,0", 40, 40, 40, 40);
         worthsAre("1,0,9,5", 29, 24, 24, 19, 19, 14, 14, 9, 9, 4, 4, 0, 0, 0);
@@ -351,7 +311,7 @@ public final class PromiseTests {
     }
 
     private static void lady() {
-        promise = 7;
+        bind("promise 7");
         HatPins x = laid("g0,0,9,1,20;g1,0,9,1,20;g2,0,9,1,20;g3,1,9,1,20;g0,0,9,1,1;l1,0,3;l0,0,1,2,3;l9,2,1;");
         due("no such", x.lady(3, 0), BAD);
         due("no such", x.lady(-1, 0), BAD);
@@ -380,7 +340,7 @@ public final class PromiseTests {
     }
 
     private static void pass() {
-        promise = 8;
+        bind("promise 8");
         for (int n : new int[] {MIN, -1, 0, 25, MAX}) {
             due("pass " + n, new HatPins().pass(n), BAD);
         }
@@ -405,7 +365,7 @@ public final class PromiseTests {
     }
 
     private static void passFollows() {
-        promise = 8;
+        bind("promise 8");
         // g0 is over in 3, so g1 is due 0 behind 4; g1 in 4, so g2 5 behind 5.
         HatPins x = passed("g0,2,1,0,2;g0,99,1,0,1;g0,99,1,0,3;f0,1,0;f1,2,5;", 4);
         due("due at once", x.going(1, 5), 4);
@@ -431,7 +391,7 @@ public final class PromiseTests {
     }
 
     private static void passTo999() {
-        promise = 8;
+        bind("promise 8");
         HatPins x = laid("g0,0,1,0,1;");
         for (int i = 0; i < 41; i++) {
             x.pass(24);
@@ -451,7 +411,7 @@ public final class PromiseTests {
     }
 
     private static void pin() {
-        promise = 9;
+        bind("promise 9");
         HatPins x = laid("g0,0,9,1,20;g1,0,9,1,20;g0,1,9,1,3;g0,0,9,1,20;l2,0;l0,0;");
         due("no such lady", x.pin(2, 0), BAD);
         due("no such lady", x.pin(-1, 0), BAD);
@@ -478,7 +438,7 @@ public final class PromiseTests {
     }
 
     private static void pinFollows() {
-        promise = 9;
+        bind("promise 9");
         String text = "g0,0,1,0,9;g0,99,1,0,1;g0,5,1,0,1;g0,30,1,0,1;f0,1,0;f0,2,7;f0,3,7;l1,0;";
         HatPins x = passed(text, 3);
         x.pin(0, 0);
@@ -496,7 +456,7 @@ public final class PromiseTests {
     }
 
     private static void lend() {
-        promise = 10;
+        bind("promise 10");
         HatPins x = laid("g0,0,9,1,20;l2,0;l8,1;l0,2;");
         due("alike", x.lend(0, 0), BAD);
         due("alike, with none", x.lend(2, 2), BAD);
@@ -518,7 +478,7 @@ public final class PromiseTests {
     }
 
     private static void undo() {
-        promise = 11;
+        bind("promise 11");
         HatPins x = laid("g0,0,9,1,20;g0,99,1,0,1;f0,1,9;l2,0;l8,1;");
         due("nothing yet", x.undo(), NO);
         x.pass(7);
@@ -557,7 +517,7 @@ public final class PromiseTests {
     }
 
     private static void behind() {
-        promise = 12;
+        bind("promise 12");
         // 3, 1, -1, -3, then nothing; 5, 5 from 2 on
         HatPins x = laid("g0,0,3,2,4;g0,2,5,0,2;l1,0;");
         int[] had = {0, 3, 4, 8, 10, 10};
@@ -583,7 +543,7 @@ public final class PromiseTests {
     }
 
     private static void dull() {
-        promise = 13;
+        bind("promise 13");
         due("third minute", laid("g0,0,3,2,4;").dull(), 2);
         due("now", passed("g0,0,3,2,4;", 2).dull(), 0);
         due("over", passed("g0,0,3,2,4;", 4).dull(), NONE);
@@ -598,7 +558,7 @@ public final class PromiseTests {
     }
 
     private static void quiet() {
-        promise = 14;
+        bind("promise 14");
         due("behind it", laid("g0,0,3,2,4;").quiet(), 56);
         due("ahead of it", laid("g0,40,3,2,40;").quiet(), 40);
         due("all", laid("g0,60,3,2,40;").quiet(), 60);
@@ -617,7 +577,7 @@ public final class PromiseTests {
     }
 
     private static void stop() {
-        promise = 15;
+        bind("promise 15");
         HatPins x = laid("g0,0,3,2,4;");
         due("no such", x.stop(1, 0), BAD);
         due("no such", x.stop(-1, 0), BAD);
@@ -654,7 +614,7 @@ public final class PromiseTests {
     }
 
     private static void best() {
-        promise = 16;
+        bind("promise 16");
         HatPins x = laid("g0,0,3,2,4;g0,0,1,2,4;g1,0,0,1,9;l1,0;l1,0,1;");
         due("no such what", x.best(2), BAD);
         due("no such what", x.best(-1), BAD);
@@ -684,7 +644,7 @@ public final class PromiseTests {
     }
 
     private static void both() {
-        promise = 17;
+        bind("promise 17");
         HatPins x = laid("g0,0,3,2,4;g0,0,1,2,4;g1,0,0,1,9;");
         due("no such what", x.both(2), BAD);
         due("no such what", x.both(-1), BAD);
@@ -712,7 +672,7 @@ public final class PromiseTests {
     }
 
     private static void never() {
-        promise = 18;
+        bind("promise 18");
         HatPins x = laid("g0,0,0,1,4;g0,9,0,2,4;g0,9,9,0,1;");
         due("no such what", x.never(2), BAD);
         due("no such what", x.never(-1), BAD);
@@ -738,7 +698,7 @@ public final class PromiseTests {
     }
 
     private static void note() {
-        promise = 19;
+        bind("promise 19");
         HatPins x = new HatPins();
         int[][] bad = {{-1, 0}, {40, 0}, {0, 21}, {0, -21}, {MIN, 0}, {0, MAX}};
         for (int[] b : bad) {
@@ -757,7 +717,7 @@ public final class PromiseTests {
     }
 
     private static void forget() {
-        promise = 20;
+        bind("promise 20");
         HatPins x = new HatPins();
         due("nothing", x.forget(), 0);
         x.note(0, -1);
@@ -771,7 +731,7 @@ public final class PromiseTests {
     }
 
     private static void waning() {
-        promise = 21;
+        bind("promise 21");
         HatPins x = new HatPins();
         due("no such what", x.waning(2), BAD);
         due("no such what", x.waning(-1), BAD);
@@ -805,7 +765,7 @@ public final class PromiseTests {
     }
 
     private static void kinds() {
-        promise = 22;
+        bind("promise 22");
         HatPins x = laid("g2,0,8,3,20;g0,0,20,5,20;g0,0,0,0,1;");
         due("no such", x.kinds(3), BAD);
         due("no such", x.kinds(-1), BAD);
@@ -837,13 +797,8 @@ public final class PromiseTests {
         due("of nothing any", x.kinds(2), 15);
     }
 
-    private static void chanceIs(HatPins x, int t, int ofTen, int h, int above, int below) {
-        due("late " + t + " " + ofTen + " " + h + " above", x.late(t, ofTen, h, 0), above);
-        due("late " + t + " " + ofTen + " " + h + " below", x.late(t, ofTen, h, 1), below);
-    }
-
     private static void late() {
-        promise = 23;
+        bind("promise 23");
         // In time 40 each; 20 late: 28 to 59 and 27 to 59, so 32 and 33.
         HatPins x = laid("g0,8,1,0,40;g0,7,1,0,40;l1,0;");
         int[][] bad = {{0, 5, 5, 0}, {21, 5, 5, 0}, {5, -1, 5, 0}, {5, 11, 5, 0}, {5, 5, -1, 0}, {5, 5, 1000, 0},
@@ -885,7 +840,7 @@ public final class PromiseTests {
     }
 
     private static void lateSoon() {
-        promise = 23;
+        bind("promise 23");
         // Due in the 9th of the next minutes it can be late, in the 10th not.
         HatPins x = laid("g0,9,1,0,40;");
         chanceIs(x, 20, 10, 40, 1, 1);
@@ -903,7 +858,7 @@ public final class PromiseTests {
     }
 
     private static void season() {
-        promise = 24;
+        bind("promise 24");
         HatPins x = laid("g0,0,3,2,4;l1,0;");
         int[][] bad = {{-1, 5, 0}, {10000, 5, 0}, {0, 0, 0}, {0, 61, 0}, {0, 5, 2}, {0, 5, -1}, {MIN, MAX, 0}};
         for (int[] b : bad) {
@@ -920,40 +875,20 @@ public final class PromiseTests {
         due("no act", x.count(10), 1);
         due("no lady", passed("g0,0,3,2,4;", 1).season(0, 60, 0), 10000);
         due("no pins", passed("g0,0,3,2,4;", 1).season(0, 60, 1), 0);
-        seasonIsAsPlayed("g0,0,9,1,20;g1,3,6,2,15;g2,9,2,1,12;g3,10,5,1,30;l2,0,1;l1,2,3;l3,0;", 9999);
+        seasonIsAsPlayed(laid("g0,0,9,1,20;g1,3,6,2,15;g2,9,2,1,12;g3,10,5,1,30;l2,0,1;l1,2,3;l3,0;"), 9999);
         for (int z = 0; z < 10000; z += 37) {
-            seasonIsAsPlayed("g0,0,9,1,20;g1,3,6,2,15;g2,99,2,1,12;g3,10,5,1,30;f0,2,1;l2,0,1;l1,2,3;l3,0;", z);
+            seasonIsAsPlayed(laid("g0,0,9,1,20;g1,3,6,2,15;g2,99,2,1,12;g3,10,5,1,30;f0,2,1;l2,0,1;l1,2,3;l3,0;"), z);
             // The first can lend to none of the others: they have 9.
-            seasonIsAsPlayed("g0,0,9,5,40;g0,0,9,4,40;g0,0,9,3,40;l1,0;l9,1;l9,1;", z);
-            seasonIsAsPlayed("g0,0,9,5,40;g0,0,9,4,40;l0,0;l8,1;", z);
+            seasonIsAsPlayed(laid("g0,0,9,5,40;g0,0,9,4,40;g0,0,9,3,40;l1,0;l9,1;l9,1;"), z);
+            seasonIsAsPlayed(laid("g0,0,9,5,40;g0,0,9,4,40;l0,0;l8,1;"), z);
         }
-    }
-
-    /** The season is that which is played by the other calls of the class. */
-    private static void seasonIsAsPlayed(String text, int z) {
-        HatPins x = laid(text);
-        int had = x.season(z, 60, 0);
-        int pins = x.season(z, 60, 1);
-        int ladies = x.count(1);
-        for (int k = 0; k < 60; k++) {
-            long seed = (7919L * z + 6151L * k + 1) % 65521;
-            int draw = (int) (seed * seed % 65521);
-            if (draw % 8 < 2) {
-                x.pin(draw / 8 % ladies, draw / 64 % x.count(0));
-            } else if (draw % 8 == 2) {
-                x.lend(draw / 8 % ladies, draw / 64 % ladies);
-            }
-            x.pass(1);
-        }
-        due("had in the season of " + z, had, x.count(7));
-        due("pins in the season of " + z, pins, x.count(8));
     }
 
     private static void keepAndBack() {
         HatPins x = laid("g0,0,3,0,9;g0,99,1,0,1;f0,1,2;l2,0;l1,1;");
-        promise = 26;
+        bind("promise 26");
         due("nothing kept", x.back(), NO);
-        promise = 25;
+        bind("promise 25");
         due("first", x.keep(), 1);
         x.pass(1);
         x.pin(0, 0);
@@ -965,7 +900,7 @@ public final class PromiseTests {
         x.note(1, 1);
         x.write('g');
         due("acts", x.count(10), 4);
-        promise = 26;
+        bind("promise 26");
         due("one is left", x.back(), 1);
         due("minute", x.count(2), 1);
         due("had", x.count(7), 10003);
@@ -986,7 +921,7 @@ public final class PromiseTests {
         due("to come", x.going(0, 4), 0);
         due("pins", x.lady(0, 0), 2);
         due("no more", x.back(), NO);
-        promise = 25;
+        bind("promise 25");
         x.pass(1);
         x.keep();
         due("undone all the same", x.undo(), 0);
@@ -996,7 +931,7 @@ public final class PromiseTests {
     }
 
     private static void count() {
-        promise = 27;
+        bind("promise 27");
         HatPins x = laid("g0,0,3,0,2;g0,0,4,0,9;g0,0,5,0,9;g0,5,1,0,1;g0,6,1,0,1;g0,0,1,0,9;l2,0;l9,1;");
         for (int what : new int[] {MIN, -1, 13, MAX}) {
             due("count " + what, x.count(what), BAD);
@@ -1033,7 +968,7 @@ public final class PromiseTests {
     }
 
     private static void errorsChangeNothing() {
-        promise = 0;
+        bind("each promise");
         HatPins x = new HatPins();
         x.pass(4);
         x.pin(0, 0);
