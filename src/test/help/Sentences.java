@@ -18,6 +18,7 @@ class Sentences extends Checks {
     private static final Path DOC = Path.of("../shared/DOC.md");
     private static final Pattern BOUND =
         Pattern.compile("[0-9]+ to [0-9]+|at most|at least|\\bBAD\\b|\\bNO\\b|\\bFULL\\b|\\bNONE\\b|\\bnone\\b|below 0");
+    private static final Pattern WORD = Pattern.compile("[A-Za-z0-9]+");
 
     private static String doc = null;
     private static boolean[] quoted = {};
@@ -58,6 +59,16 @@ class Sentences extends Checks {
     /** Each word that names a bound, from this heading of the document to that one, stands in a sentence with a test. */
     static void eachBoundIsQuoted(String from, String to) {
         bind("each bound from " + from + " to " + to);
+        eachIsQuoted(BOUND, from, to);
+    }
+
+    /** As eachBoundIsQuoted, of all words. */
+    static void eachWordIsQuoted(String from, String to) {
+        bind("each word from " + from + " to " + to);
+        eachIsQuoted(WORD, from, to);
+    }
+
+    private static void eachIsQuoted(Pattern sought, String from, String to) {
         if (doc().isEmpty()) {
             return;
         }
@@ -67,8 +78,8 @@ class Sentences extends Checks {
             wrong("the document has no such headings");
             return;
         }
-        Matcher m = BOUND.matcher(doc());
-        m.region(first, last);
+        Matcher m = sought.matcher(doc());
+        m.region(first + from.length(), last);
         while (m.find()) {
             if (!quoted[m.start()] || !quoted[m.end() - 1]) {
                 wrong("no test of " + doc().substring(m.start(), Math.min(m.end() + 40, last)));

@@ -18,7 +18,7 @@ public final class ForecastBounds extends Sentences {
         bothNone();
         neverFirst();
         neverNone();
-        eachBoundIsQuoted("======== 3 ", "======== 4 ");
+        eachWordIsQuoted("======== 3 ", "======== 4 ");
         end("the bounds of what comes are kept");
     }
 
@@ -198,7 +198,8 @@ public final class ForecastBounds extends Sentences {
     }
 
     private static void bestBehind60() {
-        sentence("that she could PIN now that by which most is HAD behind 60 MINUTES");
+        sentence("BEST: of all LADIES and GOING-ONS that she could PIN now "
+            + "that by which most is HAD behind 60 MINUTES");
         // 0 and 5 are had behind it, in 60 and 61 or in 59 and 60, if it is not pinned; 60 is the last.
         bestIs(passed("g0,0,0,0,40;g2,99,0,5,2;f0,1,20;l1,0;", 1), 0, 10005);
         bestIs(passed("g0,0,0,0,40;g2,99,0,5,2;f0,1,19;l1,0;", 1), NONE, NONE);

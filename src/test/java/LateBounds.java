@@ -19,12 +19,13 @@ public final class LateBounds extends Sentences {
         seasonActs();
         seasonLends();
         seasonDraws();
+        seasonTells();
         keptMost();
         keptAll();
         hadAsItIs();
         badNumbers();
         inThisOrder();
-        eachBoundIsQuoted("======== 4 ", "Ahead of the calls `write`");
+        eachWordIsQuoted("======== 4 ", "Ahead of the calls `write`");
         end("the bounds of notes, late ones and seasons are kept");
     }
 
@@ -378,6 +379,14 @@ public final class LateBounds extends Sentences {
             seasonIsAsPlayed(passed(three, 1), z);
             seasonIsAsPlayed(passed(one, 1), z);
         }
+    }
+
+    private static void seasonTells() {
+        sentence("and 1 together: how much is HAD then, and 10000; how many PINS there are.");
+        seasonIs(laid("g0,0,9,0,40;l9,1;l9,1;l9,1;l9,1;"), 1, 60, 10360, 36);
+        seasonIs(laid("g0,0,9,0,40;l0,0;l0,1;"), 1, 60, 10360, 0);
+        // What was had ahead of it counts: -5, -10, then -15, -20.
+        seasonIs(passed("g0,0,0,5,40;l1,1;", 3), 1, 2, 10000 - 5 - 10 - 15 - 20, 1);
     }
 
     private static void keptMost() {

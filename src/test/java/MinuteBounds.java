@@ -12,6 +12,7 @@ public final class MinuteBounds extends Sentences {
         leastWorth();
         dueIsOn();
         isOver();
+        inThisOrder();
         minutes();
         behindNext();
         sooner();
@@ -19,7 +20,7 @@ public final class MinuteBounds extends Sentences {
         aPin();
         nineOfEach();
         undone();
-        eachBoundIsQuoted("======== 2 ", "======== 3 ");
+        eachWordIsQuoted("======== 2 ", "======== 3 ");
         end("the bounds of minutes are kept");
     }
 
@@ -154,6 +155,32 @@ public final class MinuteBounds extends Sentences {
         due("three at one time", all.count(5), 3);
     }
 
+    private static void inThisOrder() {
+        sentence("In a MINUTE, in this order: what is TO COME and due in it, or was due ahead of it, is ON; "
+            + "HAD is more by WORTH of all that is ON; what was ON for L MINUTES with this one, 0 first, is OVER. "
+            + "Then it is the next MINUTE");
+        HatPins one = laid("g0,0,9,0,1;");
+        due("it is on, then had, then over", one.pass(1), 10009);
+        due("over", one.going(0, 4), 2);
+        due("then it is the next", one.count(2), 1);
+        // In 2 one goes on, one is in its last minute, one in its first, one in its only one, one is pinned, one over.
+        HatPins all = passed("g0,1,1,0,9;g1,0,2,0,3;g2,2,4,0,9;g3,2,8,0,1;g0,0,16,0,9;g0,0,20,0,1;l1,0;",
+            2);
+        due("had ahead of it", all.count(7), 10000 + (2 + 16 + 20) + (1 + 2 + 16));
+        all.pin(0, 4);
+        due("all that is on is had, and nothing else", all.pass(1), 10057 + 1 + 2 + 4 + 8);
+        int[] state = {1, 2, 1, 2, 3, 2};
+        for (int g = 0; g < state.length; g++) {
+            due("state " + g, all.going(g, 4), state[g]);
+        }
+        // What follows one that is over in a minute is not on in that minute.
+        HatPins next = laid("g0,0,1,0,2;g0,99,20,0,1;f0,1,0;");
+        due("none behind, but not yet on", next.pass(2), 10002);
+        due("on in the next", next.pass(1), 10022);
+        due("one behind the other, each in its own minute",
+            passed("g0,0,1,0,1;g0,99,2,0,1;g0,99,4,0,1;f0,1,0;f1,2,0;", 2).count(7), 10003);
+    }
+
     private static void late998(HatPins x) {
         for (int i = 0; i < 41; i++) {
             x.pass(24);
@@ -190,7 +217,8 @@ public final class MinuteBounds extends Sentences {
     }
 
     private static void behindNext() {
-        sentence("each that FOLLOWS it and is TO COME is due D MINUTES behind the MINUTE that is next then "
+        sentence("As one is OVER, or PINNED, each that FOLLOWS it and is TO COME is due D MINUTES behind the MINUTE "
+            + "that is next then "
             + "(PINNED: that is next now; of OVER ones: that behind this)");
         HatPins x = passed("g0,0,1,0,3;g0,99,1,0,1;g0,99,1,0,1;f0,1,0;f0,2,20;", 2);
         due("not over yet", x.going(1, 5), NONE);

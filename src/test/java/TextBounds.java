@@ -22,7 +22,7 @@ public final class TextBounds extends Sentences {
         manyLadies();
         fault();
         laid();
-        eachBoundIsQuoted("======== 1 ", "======== 2 ");
+        eachWordIsQuoted("======== 1 ", "======== 2 ");
         end("the bounds of a text are kept");
     }
 
@@ -154,7 +154,11 @@ public final class TextBounds extends Sentences {
     }
 
     private static void kind() {
-        sentence("a GOING-ON of KIND K (0 PLAIN, 1 SLOW, 2 RISING, 3 FLAT)");
+        sentence("gK,B,I,W,L a GOING-ON of KIND K (0 PLAIN, 1 SLOW, 2 RISING, 3 FLAT)");
+        int[] numbers = {3, 11, 4, 25, 0, 7};
+        for (int what = 0; what < numbers.length; what++) {
+            tells("g3,7,11,4,25;", what, numbers[what]);
+        }
         for (int kind = 0; kind <= 3; kind++) {
             tells("g" + kind + ",0,0,0,1;", 0, kind);
         }
@@ -220,7 +224,9 @@ public final class TextBounds extends Sentences {
     }
 
     private static void unlikeToldAhead() {
-        sentence("B FOLLOWS A (unlike, told ahead)");
+        sentence("fA,B,D B FOLLOWS A (unlike, told ahead)");
+        due("0 follows 1", passed("g0,99,0,0,1;g0,0,0,0,1;f1,0,7;", 1).going(0, 5), 8);
+        due("1 does not follow 0", passed("g0,0,0,0,1;g0,99,0,0,1;f1,0,7;", 1).going(1, 5), NONE);
         isSo("f0,1,0;");
         isSo("f1,0,0;");
         isSo("f0,1,0;f0,1,0;");
@@ -259,7 +265,7 @@ public final class TextBounds extends Sentences {
     }
 
     private static void pins() {
-        sentence("a LADY with N (0 to 9) PINS");
+        sentence("lN,R,.. a LADY with N (0 to 9) PINS");
         due("none", laid("g0,0,0,0,1;l0,0;").lady(0, 0), 0);
         due("nine", laid("g0,0,0,0,1;l9,0;").lady(0, 0), 9);
         isNot("l10,0;");
